@@ -2,15 +2,13 @@ import java.util.NoSuchElementException;
 import java.util.function.Supplier;
 
 /** For each promise of the document: ordinary inputs, the edges that it names, and wrong inputs, with written answers. */
-public final class PromiseTests {
+public final class PromiseTests extends Tables {
     private static final Class<?> INDEX = IndexOutOfBoundsException.class;
     private static final Class<?> ARGUMENT = IllegalArgumentException.class;
     private static final Class<?> STATE = IllegalStateException.class;
     private static final Class<?> ELEMENT = NoSuchElementException.class;
     private static final Class<?> SUPPORT = UnsupportedOperationException.class;
     private static final Class<?> ARITHMETIC = ArithmeticException.class;
-    private static final int LEAST = Integer.MIN_VALUE;
-    private static final int GREATEST = Integer.MAX_VALUE;
     private static int tests = 0;
     private static int wrong = 0;
     private static String promise = "";
@@ -36,39 +34,6 @@ public final class PromiseTests {
             wrong++;
             StackTraceElement at = new Throwable().getStackTrace()[1];
             System.out.println(promise + ", line " + at.getLineNumber() + ": " + got + ", due is " + want);
-        }
-    }
-
-    // Tables that many tests begin with
-
-    private static Lastbus stops(int... changes) {
-        Lastbus x = new Lastbus();
-        for (int change : changes) {
-            x.stop(change);
-        }
-        return x;
-    }
-
-    /** Stops, and the service 0 on all days. */
-    private static Lastbus daily(int... changes) {
-        Lastbus x = stops(changes);
-        x.service();
-        x.week(0, 127, 0, 27);
-        return x;
-    }
-
-    /** Adds a trip of the service 0: stop, departure, then stop and arrival, which is the departure too, and so on. */
-    private static int ride(Lastbus x, int... rows) {
-        int trip = x.trip(0, rows[0], rows[1]);
-        for (int i = 2; i < rows.length; i += 2) {
-            x.call(trip, rows[i], rows[i + 1], rows[i + 1]);
-        }
-        return trip;
-    }
-
-    private static void type(Lastbus x, String text) {
-        for (char sign : text.toCharArray()) {
-            x.type(sign);
         }
     }
 

@@ -1094,14 +1094,20 @@ public final class Lastbus {
         }
 
         int putNumber(int value) {
-            int part = 1000;
-            for (int digit = 1; digit <= MAX_DIGITS; digit++) {
-                if (value >= part || part == 1) {
-                    put((char) ('0' + value / part % 10));
-                }
-                part = part >= 10 ? part / 10 : 1;
+            if (value > 999) {
+                putDigit(value / 1000);
             }
-            return length;
+            if (value > 99) {
+                putDigit(value / 100);
+            }
+            if (value > 9) {
+                putDigit(value / 10);
+            }
+            return putDigit(value);
+        }
+
+        private int putDigit(int value) {
+            return put((char) ('0' + value % 10));
         }
 
         int empty() {
@@ -1863,7 +1869,7 @@ public final class Lastbus {
 
         private void matchBack(int end) {
             int next = end;
-            for (int turn = 0; turn < count && next != NONE; turn++) {
+            for (int turn = 0; turn < count && next != NONE && cameFrom[next] != NONE; turn++) {
                 int trip = cameFrom[next];
                 int freed = behind[trip];
                 behind[trip] = next;
